@@ -1723,7 +1723,6 @@ public final class RaidMat {
         private static final int WORD = 1;
         private static final int NUMBER = 2;
         private static final int SIGN = 3;
-        private static final int NUMBER_CAP = 1000;
 
         // A word's number is its place here: colours, and results, stand in the order of their numbers.
         private static final String WORDS =
@@ -1749,7 +1748,8 @@ public final class RaidMat {
         private int kind = THE_END;
         private int start = 0;
         private int next = 0;
-        // A number's value, a sign's byte, a word's letters as a Roster holds those of a name.
+        // A number's value (once beyond SHIRT_MAX it grows no more), a sign's byte, a word's letters as a
+        // Roster holds those of a name.
         private long value = 0;
         private int team = 0;
         private int player = 0;
@@ -1802,10 +1802,10 @@ public final class RaidMat {
         }
 
         private void addToValue(int sign) {
-            if (kind == NUMBER) {
-                value = Math.min(value * 10 + sign - '0', NUMBER_CAP);
-            } else {
+            if (kind == WORD) {
                 value = value << LETTER_BITS | sign - 'a' + 1;
+            } else if (value <= SHIRT_MAX) {
+                value = value * 10 + sign - '0';
             }
         }
 
