@@ -122,7 +122,7 @@ public final class OracleTest {
     }
 
     private void askFind() throws Exception {
-        String[] names = {"a", "b", "abc", "raid", "reds", "blues", "", "toolong", "A", "a b", "a\n", "a1"};
+        String[] names = {"a", "b", "abc", "raid", "reds", "blues", "longer", "", "toolong", "A", "a b", "a\n", "a1"};
         String name = names[random.nextInt(names.length)];
         feedBoth(name);
         both("find");

@@ -1121,6 +1121,9 @@ public final class PromisesTest {
         due("find Reds", Talk.find(x, "Reds"), -2);
         due("find r1", Talk.find(x, "r1"), -2);
         due("count(6)", x.count(6), 0);
+        Talk.text(x, "team abcdef:1,2,3,4,5,6,7;team z:1,2,3,4,5,6,7;");
+        due("find six letters", Talk.find(x, "abcdef"), 0);
+        due("find one letter", Talk.find(x, "z"), 1);
 
         RaidMat y = new RaidMat();
         int[] answers = {y.letter(0, 0), y.shirt(0, 0), y.who(0, 1), y.is(0, 0), y.those(0, 0), y.outs(0, 0), y.wait(0, 0), y.score(0),
