@@ -166,16 +166,12 @@ public final class RaidMat {
         }
         int name = 0;
         for (int i = 0; i < length; i++) {
-            if (!isLetter(tape.at(i))) {
+            if (Parser.kindOf(tape.at(i)) != Parser.WORD) {
                 return NONE;
             }
             name = name << LETTER_BITS | tape.at(i) - 'a' + 1;
         }
         return name;
-    }
-
-    private static boolean isLetter(int value) {
-        return value >= 'a' && value <= 'z';
     }
 
     // ---- TEAMS and PLAYERS as they are ----
@@ -948,7 +944,11 @@ public final class RaidMat {
         }
 
         int countOf(int what) {
-            return Integer.bitCount(maskOf(what));
+            int many = 0;
+            for (int i = 0; i < size && i < PLAYERS_MAX; i++) {
+                many += status[i] == what ? 1 : 0;
+            }
+            return many;
         }
 
         void goOut(int i) {
@@ -1810,7 +1810,7 @@ public final class RaidMat {
         }
 
         private static int kindOf(int first) {
-            if (isLetter(first)) {
+            if (first >= 'a' && first <= 'z') {
                 return WORD;
             }
             return first >= '0' && first <= '9' ? NUMBER : SIGN;
