@@ -1945,8 +1945,9 @@ public final class RaidMat {
             return fault == 0 && !isSign(';') ? CANT_STAND : fault;
         }
 
-        /** Looks at a name of a TEAM, and does not go on. */
-        private int checkName() {
+        /** Goes on to a name of a TEAM, and looks at it. */
+        private int nextName() {
+            advance();
             if (!isName()) {
                 return CANT_STAND;
             }
@@ -1967,9 +1968,14 @@ public final class RaidMat {
             return player == NONE ? UNKNOWN : 0;
         }
 
-        private int readRaid() {
+        /** Goes on to a SHIRT of a TEAM, and looks at it. */
+        private int nextShirt(int ofTeam) {
             advance();
-            int fault = checkShirt(match.state.turn);
+            return checkShirt(ofTeam);
+        }
+
+        private int readRaid() {
+            int fault = nextShirt(match.state.turn);
             if (fault != 0) {
                 return fault;
             }
@@ -2036,13 +2042,10 @@ public final class RaidMat {
         }
 
         private int readCard() {
-            advance();
-            int fault = checkName();
-            if (fault != 0) {
-                return fault;
+            int fault = nextName();
+            if (fault == 0) {
+                fault = nextShirt(team);
             }
-            advance();
-            fault = checkShirt(team);
             if (fault != 0) {
                 return fault;
             }
@@ -2065,13 +2068,10 @@ public final class RaidMat {
         }
 
         private int readChange() {
-            advance();
-            int fault = checkName();
-            if (fault != 0) {
-                return fault;
+            int fault = nextName();
+            if (fault == 0) {
+                fault = nextShirt(team);
             }
-            advance();
-            fault = checkShirt(team);
             if (fault != 0) {
                 return fault;
             }
@@ -2105,8 +2105,7 @@ public final class RaidMat {
         }
 
         private int readReview() {
-            advance();
-            int fault = checkName();
+            int fault = nextName();
             if (fault != 0) {
                 return fault;
             }

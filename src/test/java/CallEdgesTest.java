@@ -323,6 +323,7 @@ public final class CallEdgesTest {
         Edge.all("streak: of its own", streak, "streak(0, 0) = 2", "streak(0, 1) = 0", "streak(1, 1) = 1", "streak(0, 2) = 0");
         Edge.all("streak: the most, not the last", Story.of("raid 1 bonus;raid 1 bonus;raid 1 bonus;raid 1 empty;raid 1 empty;raid 1 bonus;"), "streak(0, 0) = 2", "streak(1, 0) = 1");
         Edge.all("streak: a tackle is none of its RAIDS", Story.of("raid 1 empty;raid 1 tackled 1;"), "streak(0, 0) = 0");
+        Edge.all("last: RAID 0", Story.of("raid 1 empty;raid 1 empty;"), "last(0, 0) = 0", "last(1, 0) = 1");
         Edge.all("last: the last RAID of a PLAYER", streak, "last(0, 0) = 8", "last(0, 1) = 2", "last(1, 1) = 1", "last(0, 2) = -1", "last(1, 0) = -1");
     }
 
@@ -333,6 +334,8 @@ public final class CallEdgesTest {
         Edge.all("first: by a tackle", story, "first(0, 1, 1) = 3", "first(1, 2, 1) = 6", "first(0, 0, 1) = -1", "first(1, 0, 1) = -1");
         Edge.all("first: NONE: none", FIRST, "first(0, 0, 0) = -1", "first(0, 0, 1) = -1", "first(0, 0, 2) = -2", "first(0, 0, -1) = -2", "first(0, 9, 0) = -2");
         Edge.all("first: RAID 0", Story.of("raid 1 tackled 1 bonus;"), "first(0, 0, 0) = 0", "first(1, 0, 1) = 0");
+        Edge.all("first: touched ones (bits) are no tackle", Story.of("raid 1 touch 1;raid 2 touch 2;"), "first(1, 1, 1) = -1", "first(1, 0, 1) = -1", "first(0, 1, 1) = -1", "first(0, 2, 1) = -1");
+        Edge.all("first: tackled by the other one's PLAYER", Story.of("raid 1 tackled 3;"), "first(0, 2, 1) = -1", "first(0, 0, 1) = -1", "first(1, 2, 1) = 0");
         Edge.all("first: out is no tackle", Story.of("raid 1 out;"), "first(1, 0, 1) = -1");
     }
 
@@ -357,6 +360,8 @@ public final class CallEdgesTest {
         says("tell: touched ones by raid() go by numbers", FIRST.then("raid(0, 1, 70, 0)", "tell(0)"), "raid 1 touch 2,3,7;");
         says("tell: SHIRTS of one and two digits", Story.blank().text("team a:10,2,3,4,5,6,7;team b:99,9,3,4,5,6,7;raid 10 touch 99,9;raid 3 tackled 10;").then("tell(0)"),
             "raid 10 touch 99,9;raid 3 tackled 10;");
+        says("tell: of TEAM 1, SHIRTS of TEAM 0", Story.blank().text("team a:31,32,33,34,35,36,37;team b:1,2,3,4,5,6,7;raid 31 empty;raid 2 touch 37,31 bonus;raid 32 out;raid 2 tackled 33;").then("tell(2)"),
+            "raid 2 touch 37,31 bonus;raid 2 tackled 33;");
         says("tell: a RAID taken away is none", Story.of("raid 1 empty;raid 2 empty;review a won;").then("tell(0)"), "raid 1 empty;");
         // 12 bytes each with SHIRTS of two digits; 14 for a bonus. 142 times 14 are 1988, 12 more make 2000.
         Story wide = Story.blank().text("team a:11,12,13,14,15,16,17;team b:11,12,13,14,15,16,17;" + "raid11bonus;".repeat(142));

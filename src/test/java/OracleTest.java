@@ -117,7 +117,19 @@ public final class OracleTest {
         } else if (dice < 99) {
             tellText(style);
         } else {
-            askSome(20);
+            callAny(20);
+        }
+    }
+
+    /** Any calls, acts too, with numbers of any size. */
+    private void callAny(int many) throws Exception {
+        for (int n = 0; n < many; n++) {
+            int method = random.nextInt(REAL.size());
+            int[] given = new int[REAL.get(method).getParameterCount()];
+            for (int i = 0; i < given.length; i++) {
+                given[i] = random.nextInt(3) == 0 ? random.nextInt() : randomNumber();
+            }
+            both(method, given);
         }
     }
 

@@ -227,6 +227,12 @@ public final class RuleEdgesTest {
         yesRaid("ALL OUT of the touched TEAM: the last one", last.then("raid(6, 0, 0, 0)"), "0, 1, 64, 0", 3, 0, 7, 7);
         Edge.all("ALL OUT: all its OUT ones are ON", FIRST.then("raid(0, 1, 127, 1)"), "those(1, 0) = 127", "those(1, 1) = 0", "those(1, 2) = 128",
             "outs(1, 0) = -1", "parts(0, 4) = 2", "parts(0, 0) = 7", "parts(0, 1) = 1", "of(1, 6, 5) = 1", "of(0, 0, 1) = 8", "allOut(1, 0) = 0", "raidOf(0, 8) = 0");
+        Story other = Story.of("raid 1 empty;");
+        yesRaid("ALL OUT of TEAM 0", other, "0, 1, 127, 1", 10, 0, 7, 7);
+        Edge.all("ALL OUT of TEAM 0", other.then("raid(0, 1, 127, 1)"), "allOut(0, 0) = 1", "allOut(0, 1) = -1", "allOut(1, 0) = -1", "parts(1, 4) = 2", "parts(0, 4) = 0", "those(0, 2) = 384");
+        Story its = other.then("raid(0, 1, 126, 0)");
+        yesRaid("ALL OUT of TEAM 0, by its own RAID", its, "0, 4, 0, 0", 0, 3, 7, 7);
+        Edge.all("ALL OUT of TEAM 0, by its own RAID", its.then("raid(0, 4, 0, 0)"), "allOut(0, 0) = 2", "allOut(1, 0) = -1", "parts(1, 4) = 2", "parts(0, 4) = 0", "parts(1, 5) = 1");
         // Six SENT OFF, one ON: touched, it is ALL OUT and ON again.
         Story lone = Story.of(ALL_RED.replace("card b 7 red;", ""));
         yesRaid("ALL OUT of one alone", lone, "0, 1, 64, 0", 3, 0, 7, 1);
@@ -361,6 +367,11 @@ public final class RuleEdgesTest {
         Edge.due("green: the fourth is a yellow", twice.then("card(0, 0, 0)"), "card(0, 0, 0)", 3);
         Edge.due("green: a yellow is none of them", Story.of("card a 1 yellow;" + six), "card(0, 0, 0)", 0);
         Edge.due("green: a second one of one who is OUT", Story.of("card a 1 green;raid 1 out;"), "card(0, 0, 0)", 3);
+        Story both = Story.of("card a 1 green;");
+        Edge.undone("yellow: of one who has a green", both, "card(0, 0, 1)", 3);
+        Edge.all("yellow: of one who has a green", both.then("card(0, 0, 1)"), "wait(0, 0) = 6", "of(0, 0, 7) = 1");
+        Edge.due("green: the second, a yellow between", Story.of("card a 1 green;card a 1 yellow;" + six), "card(0, 0, 0)", 3);
+        Edge.due("red: of one who has a green", both, "card(0, 0, 2)", 4);
         Edge.due("green: across the half", Story.of("card a 1 green;half;"), "card(0, 0, 0)", 3);
         Edge.all("card: the 40th other LINE", Story.of("raid1out;review a won;".repeat(39)), "card(0, 0, 2) = 4", "count(3) = 40");
     }
@@ -510,6 +521,10 @@ public final class RuleEdgesTest {
         Portrait.same("undo: then what was ahead of text()", base.then("half()").text(Talk.TEAMS).then("undo()", "undo()"), base);
         Portrait.same("undo: a review, the RAID of it", base.then("raid(0, 0, 0, 0)", "review(0, 1)", "undo()", "undo()"), base);
         Edge.all("undo: the RAID can be reviewed again", base.then("review(0, 1)", "undo()"), "may(0) = 1", "review(0, 1) = 3");
+        Portrait.same("undo: another act in a text()'s place", base.text(Talk.TEAMS + "raid 2 out;").then("undo()", "half()", "undo()"), base);
+        Portrait.same("undo: other acts in the places of an act and a text()",
+            base.then("half()").text(Talk.TEAMS + "raid 2 out;").then("undo()", "undo()", "raid(0, 0, 0, 0)", "raid(1, 4, 0, 0)", "undo()"), base.then("raid(0, 0, 0, 0)"));
+        Portrait.same("undo: a text() in another act's place", base.then("half()", "undo()").text(Talk.TEAMS + "raid 2 out;").then("undo()"), base);
         Portrait.same("undo: another act in its place", base.then("raid(0, 4, 0, 0)", "undo()", "half()"), base.then("half()"));
         Edge.all("undo: OUT is as told last", base.then("tell(0)", "raid(0, 0, 0, 0)", "tell(1)", "undo()"), "count(7) = 49");
         Edge.all("undo: the TAPE stays", base.tape("abc").then("undo()"), "count(6) = 3");

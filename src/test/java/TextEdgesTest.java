@@ -1,3 +1,5 @@
+import java.util.Arrays;
+
 /** Term I (the TEXT, its TOKENS, its FAULTS) and promises 2 to 5: a test for each sentence that names a boundary case. */
 public final class TextEdgesTest {
     private static final String TEAMS = Talk.TEAMS;
@@ -43,6 +45,15 @@ public final class TextEdgesTest {
     /** The same behind the TEAMS a (9 PLAYERS) and b (8). */
     private static void wrongLine(String sentence, String marked, int number) {
         wrong(sentence, TEAMS + marked, number);
+    }
+
+    /** Each of the words told in the document, but for these, can't stand there. */
+    private static void notThere(String sentence, String ahead, String behind, String... these) {
+        for (String word : WORDS) {
+            if (!Arrays.asList(these).contains(word)) {
+                wrongLine(sentence, ahead + "^" + word + behind, 1);
+            }
+        }
     }
 
     private static void right(String sentence, String text, int lines, String... asked) {
@@ -164,7 +175,7 @@ public final class TextEdgesTest {
         wrong("TEAM: no ;", "team a:" + SEVEN + "^", 1);
         wrong("TEAM: no ;", "team a:" + SEVEN + " ^team b:" + SEVEN + ";", 1);
         wrong("TEAM: no ; but a word", "team a:" + SEVEN + "^x;", 1);
-        wrongLine("LINE: no word of it", "^for;", 1);
+        notThere("LINE: no word of it", "", " 1 empty;", "raid", "card", "change", "half", "review");
         wrongLine("LINE: a name", "^a;", 1);
         wrongLine("LINE: a number", "^1;", 1);
         wrongLine("LINE: a RESULT", "^empty;", 1);
@@ -226,6 +237,10 @@ public final class TextEdgesTest {
         wrong("2: SHIRT 00", "team a:^00,2,3;", 2);
         wrong("2: SHIRT 100", "team a:1,^100,3;", 2);
         wrong("2: SHIRT 0 as the last", "team a:1,2,3,4,5,6,^0;", 2);
+        wrong("2: SHIRT 990", "team a:^990,2,3;", 2);
+        wrong("2: SHIRT 991, 99 being there", "team a:99,^991,3;", 2);
+        wrong("2: SHIRT 1000", "team a:^1000,2,3;", 2);
+        wrong("2: SHIRT 0990", "team a:^0990,2,3;", 2);
         wrong("2: beyond an int", "team a:^4294967297;", 2);
         wrong("2: beyond a long", "team a:^18446744073709551617;", 2);
         wrong("2: of 200 digits", "team a:^" + "1".repeat(200) + ";", 2);
@@ -289,9 +304,12 @@ public final class TextEdgesTest {
         wrongLine("raid: a name", "raid ^a 1 empty;", 1);
         wrongLine("raid: no RESULT", "raid 1^;", 1);
         wrongLine("raid: no RESULT", "raid 1^", 1);
-        for (String word : new String[] {"red", "won", "for", "raid", "a", "emptyy", "touche"}) {
+        for (String word : new String[] {"a", "emptyy", "touche", "ou", "empt"}) {
             wrongLine("raid: no RESULT", "raid 1 ^" + word + ";", 1);
         }
+        notThere("raid: no RESULT", "raid 1 ", ";", "empty", "touch", "bonus", "tackled", "out");
+        notThere("touch: nothing but a bonus", "raid 1 touch 1 ", ";", "bonus");
+        notThere("tackled: nothing but a bonus", "raid 1 tackled 1 ", ";", "bonus");
         wrongLine("empty: nothing more", "raid 1 empty ^bonus;", 1);
         wrongLine("empty: nothing more", "raid 1 empty ^1;", 1);
         wrongLine("out: nothing more", "raid 1 out ^bonus;", 1);
@@ -338,9 +356,10 @@ public final class TextEdgesTest {
         wrongLine("card: no name", "card ^1 red;", 1);
         wrongLine("card: no SHIRT", "card a ^red;", 1);
         wrongLine("card: no colour", "card a 1^;", 1);
-        for (String word : new String[] {"blue", "won", "out", "greens", "bonus"}) {
+        for (String word : new String[] {"blue", "greens", "gree", "a"}) {
             wrongLine("card: no colour", "card a 1 ^" + word + ";", 1);
         }
+        notThere("card: no colour", "card a 1 ", ";", "green", "yellow", "red");
         wrongLine("card: nothing more", "card a 1 red ^1;", 1);
         for (String colour : new String[] {"green", "yellow", "red"}) {
             wrongLine("5: at card's SHIRT: it WAITS", "card a ^8 " + colour + ";", 5);
@@ -363,6 +382,8 @@ public final class TextEdgesTest {
         wrongLine("change: no name", "change ^1 for 8;", 1);
         wrongLine("change: no SHIRT", "change a ^for 8;", 1);
         wrongLine("change: no for", "change a 1 ^8;", 1);
+        notThere("change: no for", "change a 1 ", " 8;", "for");
+        notThere("change: no second", "change a 1 for ", ";");
         wrongLine("change: no second", "change a 1 for^;", 1);
         wrongLine("change: nothing more", "change a 1 for 8 ^9;", 1);
         wrongLine("5: change's first WAITS", "change a ^8 for 9;", 5);
@@ -393,9 +414,10 @@ public final class TextEdgesTest {
     private static void reviewEdges() {
         wrongLine("review: no name", "raid 1 empty;review ^won;", 1);
         wrongLine("review: neither won nor lost", "raid 1 empty;review a^;", 1);
-        for (String word : new String[] {"red", "wo", "wons", "a", "for"}) {
+        for (String word : new String[] {"wo", "wons", "a"}) {
             wrongLine("review: neither won nor lost", "raid 1 empty;review a ^" + word + ";", 1);
         }
+        notThere("review: neither won nor lost", "raid 1 empty;review a ", ";", "won", "lost");
         wrongLine("review: nothing more", "raid 1 empty;review a won ^lost;", 1);
         for (String how : new String[] {"won", "lost"}) {
             wrongLine("5: at review's name: no LINE ahead", "review ^a " + how + ";", 5);
